@@ -1,15 +1,21 @@
 /** Counts the answers that are not the ones due; every test ends with end(). */
 final class Due {
     private static int wrong = 0, asked = 0;
+    private static String sentence = "";
 
     private Due() {
+    }
+
+    /** The document's sentence that the next answers hold; it is told with each wrong one. */
+    static void of(String words) {
+        sentence = "'" + words + "': ";
     }
 
     static void is(String call, long got, long want) {
         asked++;
         if (got != want) {
             wrong++;
-            System.out.println(call + " answered " + got + ", due is " + want);
+            System.out.println(sentence + call + " answered " + got + ", due is " + want);
         }
     }
 
@@ -17,7 +23,7 @@ final class Due {
         asked++;
         if (!holds) {
             wrong++;
-            System.out.println("does not hold: " + what);
+            System.out.println(sentence + "does not hold: " + what);
         }
     }
 
