@@ -1,3 +1,4 @@
+import java.util.Arrays;
 import java.util.function.Supplier;
 
 /** Desks to begin with, and what the tests of edges ask of them. */
@@ -59,7 +60,7 @@ final class Desk {
         x.factor(4, 9, 8);
     }
 
-    /** The least and the greatest number at a place answer what is due; the next ones outside and the farthest are refused. */
+    /** The least and the greatest number at a place answer what is due; the next ones and the farthest are refused. */
     static void ends(Supplier<SumMoved> desk, Call call, int place, long refusal, int least, long dueAtLeast,
             int most, long dueAtMost) {
         ask(desk, call.but(place, least), dueAtLeast);
@@ -74,10 +75,11 @@ final class Desk {
         Due.is(call.toString(), call.on(desk.get()), due);
     }
 
+    /** A call whose last number asks for the upper (0) and the lower (1) of a fraction. */
     static void fraction(SumMoved x, String name, long upper, long lower, int... with) {
-        int[] all = java.util.Arrays.copyOf(with, with.length + 1);
-        Call call = new Call(name, all);
-        Due.is(call.but(with.length, 0).toString(), call.but(with.length, 0).on(x), upper);
-        Due.is(call.but(with.length, 1).toString(), call.but(with.length, 1).on(x), lower);
+        Call ofUpper = new Call(name, Arrays.copyOf(with, with.length + 1));
+        Call ofLower = ofUpper.but(with.length, 1);
+        Due.is(ofUpper.toString(), ofUpper.on(x), upper);
+        Due.is(ofLower.toString(), ofLower.on(x), lower);
     }
 }

@@ -20,6 +20,7 @@ public final class EdgesOfRowsTest {
         rowKeepsWhatIsTold();
         noneAheadOfFull();
         rightEnds();
+        rightOfAStruckRow();
         rightOfNoRow();
         strikeEnds();
         strikeSaysWhatItWas();
@@ -324,6 +325,22 @@ public final class EdgesOfRowsTest {
         }
         Due.is("the sum of month 0", x.sum(0, 0, 0), -119);
         Due.is("the bases of month 1", x.sum(0, 1, 2), 15);
+    }
+
+    private static void rightOfAStruckRow() {
+        Due.of("TOP and BASE of a ROW are put right (of a STRUCK one, which stays so)");
+        SumMoved x = fiveAnd(101, 77, 9, 5, 0);
+        x.strike(5, 1);
+        Due.is("right", x.right(5, -99, 1), 1);
+        Due.is("still struck", x.about(5, 8), 1);
+        Due.is("its top", x.about(5, 2), -99);
+        Due.is("its base", x.about(5, 3), 1);
+        alike("it counts for nothing", x, Desk.five());
+        SumMoved y = fiveAnd(101, 77, 9, 5, 0);
+        y.strike(5, 1);
+        y.right(5, -99, 1);
+        y.strike(5, 0);
+        alike("put back", y, fiveAnd(101, -99, 1, 5, 0));
     }
 
     private static void rightOfNoRow() {

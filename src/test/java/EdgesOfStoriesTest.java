@@ -366,6 +366,10 @@ public final class EdgesOfStoriesTest {
         Due.is("a refused one", x.seek(-1, 2), -1);
         best(x, 0, -1, -1, 18);
         x.seek(1, 1);
+        Due.is("a story that is told is not the one found", x.toll(1, 2, 0), 0);
+        Due.is("nor is one of one heap", x.toll(1, -1, 1000), 1011);
+        Due.is("heaps", x.count(2), 12);
+        best(x, 1, 2, -1, 7);
         x.strike(0, 1);
         x.right(1, 99, 9);
         x.expect(9999);

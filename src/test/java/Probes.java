@@ -10,6 +10,8 @@ final class Probes {
     static final List<Call> OF_HEAPS = ofHeaps();
     /** All, the ones that change something last. */
     static final List<Call> ALL = all();
+    /** How many are last: seek(), the four story() that see what it found, expect(), row(). */
+    static final int CHANGING = 7;
 
     private Probes() {
     }
