@@ -1,12 +1,18 @@
+import java.lang.reflect.Field;
+import java.lang.reflect.Method;
+import java.lang.reflect.Modifier;
 import java.nio.file.Files;
 import java.nio.file.Path;
+import java.util.Set;
 import java.util.regex.Matcher;
 import java.util.regex.Pattern;
 
-/** What can be seen of LANGUAGE.md's rules in the text of the class; run in the project's folder. */
+/** What can be seen of LANGUAGE.md's rules in the class and its text; run in the project's folder. */
 public final class LanguageTest {
     private static final String[] BARRED = {"\\b(throw|throws|try|catch|finally|synchronized|assert|import|package)\\b",
         "->", "::", "\\w+Exact\\b", "\\bprotected\\b", "\\bstatic\\s*\\{", "\\bnew\\s+Object\\b", "\\bSystem\\.(?!arraycopy)"};
+
+    private static final Set<Class<?>> CONSTANTS = Set.of(int.class, long.class, int[].class);
 
     public static void main(String[] args) throws Exception {
         String text = Files.readString(Path.of("src/main/java/SumMoved.java"));
@@ -18,7 +24,29 @@ public final class LanguageTest {
         }
         noMoreThanSixtyLines(code);
         noObjectsButInConstructors(code);
+        Class<?>[] inside = SumMoved.class.getDeclaredClasses();
+        Due.holds("at most twelve classes", inside.length < 12);
+        staysSmall(SumMoved.class);
+        for (Class<?> one : inside) {
+            staysSmall(one);
+        }
         Due.end();
+    }
+
+    private static void staysSmall(Class<?> one) {
+        int fields = 0;
+        for (Field f : one.getDeclaredFields()) {
+            if (Modifier.isStatic(f.getModifiers())) {
+                Due.holds(f + " is a constant of numbers", Modifier.isFinal(f.getModifiers())
+                        && CONSTANTS.contains(f.getType()));
+            } else {
+                fields++;
+            }
+        }
+        Due.holds(one + " has at most twenty fields", fields <= 20);
+        for (Method m : one.getDeclaredMethods()) {
+            Due.holds(m + " takes at most seven", m.getParameterCount() <= 7);
+        }
     }
 
     private static void noMoreThanSixtyLines(String code) {

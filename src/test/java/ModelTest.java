@@ -29,7 +29,7 @@ public final class ModelTest {
     private void play() {
         while (asked < CALLS) {
             boolean filling = random.nextInt(CALLS) > asked * 2;
-            int which = filling ? 0 : random.nextInt(21);
+            int which = filling ? 0 : random.nextInt(22);
             if (which < 9) {
                 rowsAndMeasures(which);
             } else {
@@ -151,9 +151,14 @@ public final class ModelTest {
                 int bound = random.nextBoolean() ? near(0, 300) : near(0, 9999);
                 due("first", x.first(heap, bound), model.first(heap, bound), heap, bound);
             }
-            default -> {
+            case 20 -> {
                 int what = near(0, 2);
                 due("count", x.count(what), model.count(what), what);
+            }
+            // Rows and EXPECTED may have changed since the latest seek().
+            default -> {
+                int what = near(0, 3);
+                due("story", x.story(what), model.story(what), what);
             }
         }
     }
